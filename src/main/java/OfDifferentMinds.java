@@ -1173,11 +1173,8 @@ public final class OfDifferentMinds {
         }
 
         private static int inRiderLine(Text text, int places) {
-            int start = text.position();
             int mind = text.number(2);
-            // a lone 0 at the last sign that may be read could go on as 05: then the text is too long
-            boolean open = text.isCutShort() && text.position() - start < 2;
-            if (mind == 0 && !open) {
+            if (mind == 0) {
                 return text.position() - 1;
             }
             if (mind == NONE || !text.take(':')) {
