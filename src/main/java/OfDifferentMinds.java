@@ -9,6 +9,8 @@ public final class OfDifferentMinds {
 
     private static final int NOT_NOW = -2;
     private static final int NO_WAY = -3;
+    private static final int NOT_BESIDE = -3;
+    private static final int MISSING = -3;
     private static final int ELSEWHERE = -4;
     private static final int NO_COUNT = -100;
 
@@ -191,7 +193,7 @@ public final class OfDifferentMinds {
             sum = sum + mind;
         }
         limitSpent();
-        return kind == 3 ? -3 : sum;
+        return kind == 3 ? MISSING : sum;
     }
 
     private static int entryMind(int kind, int entry) {
@@ -275,7 +277,7 @@ public final class OfDifferentMinds {
         }
         int place = now.horse();
         if (now.placeOf(first) != place || now.placeOf(second) != place) {
-            return NO_WAY;
+            return NOT_BESIDE;
         }
         now.seat(first, second);
         return viewAt(first, place) != viewAt(second, place) ? 1 : 0;
