@@ -531,7 +531,7 @@ public final class OfDifferentMinds {
             return NONE;
         }
         atlas.survey(from);
-        int rides = atlas.fewestRides(from, to);
+        int rides = atlas.fewest(from, to, false);
         if (rides == NONE) {
             return NOT_NOW;
         }
@@ -554,7 +554,7 @@ public final class OfDifferentMinds {
         if (!land.hasPlace(from) || !land.hasPlace(to)) {
             return NONE;
         }
-        int ways = atlas.fewestWays(from, to);
+        int ways = atlas.fewest(from, to, true);
         if (ways == NONE) {
             return NOT_NOW;
         }
@@ -1964,13 +1964,14 @@ public final class OfDifferentMinds {
             return land.hasPlace(place) ? far[place] : NONE;
         }
 
-        /** By the rides that were surveyed last. */
-        int fewestRides(int from, int to) {
+        /** WAYS on foot, or rides that were surveyed last; NONE: one can't. */
+        int fewest(int from, int to, boolean afoot) {
             beginAt(to);
-            for (int rides = 1; rides < MOST_PLACES; rides++) {
+            for (int n = 1; n < MOST_PLACES; n++) {
                 for (int place = 0; place < land.places(); place++) {
-                    if (far[place] == NONE && pairTo(place, rides - 1) != NONE) {
-                        far[place] = rides;
+                    if (far[place] == NONE) {
+                        int next = afoot ? wayTo(place, n - 1) : pairTo(place, n - 1);
+                        far[place] = next == NONE ? NONE : n;
                     }
                 }
             }
@@ -1999,18 +2000,6 @@ public final class OfDifferentMinds {
                     place = ends[place * PAIRS + pair];
                 }
             }
-        }
-
-        int fewestWays(int from, int to) {
-            beginAt(to);
-            for (int ways = 1; ways < MOST_PLACES; ways++) {
-                for (int place = 0; place < land.places(); place++) {
-                    if (far[place] == NONE && wayTo(place, ways - 1) != NONE) {
-                        far[place] = ways;
-                    }
-                }
-            }
-            return farOf(from);
         }
 
         private int wayTo(int place, int ways) {

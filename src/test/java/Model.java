@@ -176,7 +176,8 @@ public final class Model {
     private int riderFault(String t, int f, int room) {
         String ahead = t.substring(0, f);
         boolean lone = ahead.equals("0") || ahead.endsWith(";0");
-        if (lone && !(f == 76 && t.length() > 76)) {
+        boolean second = f < t.length() && t.charAt(f) == '0';
+        if (lone && !second) {
             return f - 1;
         }
         boolean full = f < t.length() && t.charAt(f) == ';' && ahead.split(";", -1).length == room;
