@@ -1,137 +1,5 @@
-import java.util.Arrays;
-import java.util.NoSuchElementException;
-import java.util.function.IntSupplier;
-
 /** Each promise of the document by hand: ordinary inputs, the edges it names, wrong inputs. */
-public final class PromiseTest {
-    private static final String ROADS = "bc;cab!;a;-";
-    private static final String RIDERS = "9:0000;3:1200;5:0110";
-    private static final int THROWS = Integer.MIN_VALUE;
-
-    private static int wrong;
-    private static int promise;
-
-    private final OfDifferentMinds x = new OfDifferentMinds();
-
-    private PromiseTest() {
-    }
-
-    private PromiseTest(String roads, String riders) {
-        text(roads).x.roads();
-        text(riders).x.riders();
-    }
-
-    private static PromiseTest county() {
-        return new PromiseTest(ROADS, RIDERS);
-    }
-
-    private PromiseTest text(String t) {
-        x.end(0);
-        for (int i = 0; i < t.length(); i += 4) {
-            int v = 0;
-            for (int j = i; j < i + 4; j++) {
-                v = v << 8 | (j < t.length() ? t.charAt(j) : 0);
-            }
-            x.sign(v);
-        }
-        x.end(t.length());
-        return this;
-    }
-
-    private int roads(String t) {
-        return text(t).x.roads();
-    }
-
-    private int riders(String t) {
-        return text(t).x.riders();
-    }
-
-    private int rule(String t) {
-        return text(t).x.rule();
-    }
-
-    private int journey(String t) {
-        return text(t).x.journey();
-    }
-
-    private int prints(String t) {
-        return text(t).x.prints();
-    }
-
-    /** An answer, and the whole ROW behind it. */
-    private void due(int got, int want, int... row) {
-        int[] told = new int[x.count(10)];
-        for (int i = 0; i < told.length; i++) {
-            told[i] = x.row(i);
-        }
-        if (got != want || !Arrays.equals(told, row)) {
-            fail(got + " with the row " + Arrays.toString(told), want + " with " + Arrays.toString(row));
-        }
-    }
-
-    private static void is(int got, int want) {
-        if (got != want) {
-            fail("" + got, "" + want);
-        }
-    }
-
-    private static void is(boolean got, boolean want) {
-        if (got != want) {
-            fail("" + got, "" + want);
-        }
-    }
-
-    /** All that can be undone or kept. */
-    private String state() {
-        StringBuilder b = new StringBuilder();
-        for (int what = 2; what <= 6; what++) {
-            b.append(x.count(what)).append(' ');
-        }
-        for (int r = 0; r < x.count(1); r++) {
-            for (int what = 0; what < 6; what++) {
-                b.append(x.rider(r, what)).append(' ');
-            }
-            for (int p = 0; p < x.count(0); p++) {
-                b.append(x.view(r, p)).append(' ');
-            }
-        }
-        return b.toString();
-    }
-
-    /** An ACT changes something, and undo() brings back just what was ahead of it. */
-    private void undone(IntSupplier act) {
-        String before = state();
-        act.getAsInt();
-        String behind = state();
-        if (before.equals(behind)) {
-            fail(behind, "something else");
-        }
-        x.undo();
-        if (!before.equals(state())) {
-            fail(state(), before);
-        }
-        act.getAsInt();
-        if (!behind.equals(state())) {
-            fail(state(), behind);
-        }
-    }
-
-    private static void none(IntSupplier call) {
-        int got = THROWS;
-        try {
-            got = call.getAsInt();
-        } catch (NoSuchElementException e) {
-            return;
-        }
-        fail("" + got, "NoSuchElementException");
-    }
-
-    private static void fail(String got, String want) {
-        wrong++;
-        StackTraceElement[] trace = new Throwable().getStackTrace();
-        System.out.println("promise " + promise + ", line " + trace[2].getLineNumber() + ": " + got + ", due is " + want);
-    }
-
+public final class PromiseTest extends Checks {
     public static void main(String[] args) {
         Runnable[] tests = {
             PromiseTest::fresh, PromiseTest::sign, PromiseTest::end, PromiseTest::roads, PromiseTest::riders,
@@ -143,29 +11,15 @@ public final class PromiseTest {
             PromiseTest::agree, PromiseTest::convinces, PromiseTest::claim, PromiseTest::lie, PromiseTest::prints,
             PromiseTest::fits, PromiseTest::views, PromiseTest::editions, PromiseTest::kinds, PromiseTest::oneCounty,
             PromiseTest::keep, PromiseTest::again, PromiseTest::count, PromiseTest::row};
-        for (Runnable test : tests) {
-            promise++;
-            test.run();
+        for (int i = 0; i < tests.length; i++) {
+            about = "promise " + (i + 1);
+            tests[i].run();
         }
-        System.out.println(wrong == 0 ? promise + " promises hold" : wrong + " answers are not as due");
-        if (wrong > 0) {
-            System.exit(1);
-        }
-    }
-
-    /**
-     * 1 is convinced by 0 and goes by its map, 0 is convinced by 2: they disagree for ever, at PLACE
-     * 0, from where WAY 0 leads back and WAY 1 to PLACE 2, which no WAY leaves.
-     */
-    private static PromiseTest stubborn() {
-        PromiseTest t = new PromiseTest("ac!;a;-", "1:000;1:111;9:111");
-        t.rule("0");
-        t.journey("m01;r1;d;m20;r1;d");
-        return t;
+        finish(tests.length + " promises hold");
     }
 
     private static void fresh() {
-        PromiseTest t = new PromiseTest();
+        Probe t = new Probe();
         int[] counts = {0, 0, 0, -1, -1, 0, 0, 0, 0, 0, 0, 0};
         for (int i = 0; i < counts.length; i++) {
             is(t.x.count(i), counts[i]);
@@ -182,7 +36,7 @@ public final class PromiseTest {
     }
 
     private static void sign() {
-        PromiseTest t = new PromiseTest();
+        Probe t = new Probe();
         is(t.x.sign('b' << 24 | ';' << 16 | 'a' << 8 | '!'), 4);
         is(t.x.roads(), 2);
         is(t.x.place(0, 1), 1);
@@ -201,7 +55,7 @@ public final class PromiseTest {
     }
 
     private static void end() {
-        PromiseTest t = new PromiseTest();
+        Probe t = new Probe();
         is(t.x.end(0), true);
         is(t.x.end(1), false);
         t.x.sign(0x61626364);
@@ -216,7 +70,7 @@ public final class PromiseTest {
     }
 
     private static void roads() {
-        PromiseTest t = county();
+        Probe t = Probe.county();
         t.prints("ab");
         t.x.mount(0, 1);
         t.x.keep(0);
@@ -255,7 +109,7 @@ public final class PromiseTest {
     }
 
     private static void riders() {
-        PromiseTest t = new PromiseTest();
+        Probe t = new Probe();
         is(t.riders("1:;99:"), 2);
         is(t.x.rider(1, 0), 99);
         t.roads("aa!;b");
@@ -306,14 +160,14 @@ public final class PromiseTest {
 
     /** The WAY by a RULE, of three, of VIEWS 0 and 1. */
     private static void way(String rule, int want) {
-        PromiseTest t = new PromiseTest("abc;abc;abc", "9:000;7:111");
+        Probe t = new Probe("abc;abc;abc", "9:000;7:111");
         is(t.rule(rule), 0);
         t.x.mount(0, 1);
         is(t.x.where(1), want);
     }
 
     private static void rule() {
-        PromiseTest t = new PromiseTest();
+        Probe t = new Probe();
         StringBuilder long40 = new StringBuilder("a");
         while (long40.length() < 39) {
             long40.append("+a");
@@ -368,7 +222,7 @@ public final class PromiseTest {
         way("999*999*999*999", Math.floorMod(999 * 999 * 999 * 999, 3));
         way("-999*999*999*999-1", Math.floorMod(-999 * 999 * 999 * 999 - 1, 3));
         // a RULE that can't be leaves the one before
-        PromiseTest u = new PromiseTest("abc;abc;abc", "9:000;7:111");
+        Probe u = new Probe("abc;abc;abc", "9:000;7:111");
         u.rule("1");
         is(u.rule("2+"), -3);
         u.x.mount(0, 1);
@@ -383,13 +237,13 @@ public final class PromiseTest {
         u.x.mount(0, 1);
         is(u.x.where(1), 0);
         // two WAYS: that of THE SECOND
-        PromiseTest two = new PromiseTest("bc;a;a", "9:000;9:100");
+        Probe two = new Probe("bc;a;a", "9:000;9:100");
         is(two.x.reaches(0, 1, 0, 2), 1);
         is(two.x.reaches(1, 0, 0, 1), 1);
     }
 
     private static void place() {
-        PromiseTest t = county();
+        Probe t = Probe.county();
         int[][] want = {{2, 1, 2, -1, 0, 7}, {3, 2, 0, 1, 1, 0}, {1, 0, -1, -1, 0, 0}, {0, -1, -1, -1, 0, 0}};
         for (int p = 0; p < 4; p++) {
             for (int what = 0; what < 6; what++) {
@@ -409,7 +263,7 @@ public final class PromiseTest {
     }
 
     private static void rider() {
-        PromiseTest t = county();
+        Probe t = Probe.county();
         t.journey("m10;r3");
         int[][] want = {{9, 0, 1, -1, 0, 1}, {3, 3, 1, 0, 0, 1}, {5, 0, 0, -1, 0, 0}};
         for (int r = 0; r < 3; r++) {
@@ -421,13 +275,13 @@ public final class PromiseTest {
         none(() -> t.x.rider(-1, 5));
         none(() -> t.x.rider(0, 6));
         none(() -> t.x.rider(0, -1));
-        PromiseTest nowhere = new PromiseTest("-", "9:0");
+        Probe nowhere = new Probe("-", "9:0");
         is(nowhere.x.rider(0, 4), -1);
         is(nowhere.x.rider(0, 2), 0);
     }
 
     private static void view() {
-        PromiseTest t = county();
+        Probe t = Probe.county();
         int[][] want = {{0, 0, 0, -2}, {1, 2, 0, -2}, {0, 1, 0, -2}};
         for (int r = 0; r < 3; r++) {
             for (int p = 0; p < 4; p++) {
@@ -438,12 +292,12 @@ public final class PromiseTest {
         is(t.x.view(0, 4), -1);
         is(t.x.view(-1, 3), -1);
         is(t.x.view(0, -1), -1);
-        PromiseTest one = new PromiseTest("ab;aba;a", "9:222");
+        Probe one = new Probe("ab;aba;a", "9:222");
         is(one.x.view(0, 0), 0);
         is(one.x.view(0, 1), 2);
         is(one.x.view(0, 2), 0);
         // of the MAP of the one who convinced it, not of the one who convinced that one
-        PromiseTest s = stubborn();
+        Probe s = Probe.stubborn();
         is(s.x.rider(1, 3), 0);
         is(s.x.rider(0, 3), 2);
         is(s.x.view(1, 0), 0);
@@ -455,7 +309,7 @@ public final class PromiseTest {
     }
 
     private static void sheet() {
-        PromiseTest t = county();
+        Probe t = Probe.county();
         is(t.x.sheet(2, 3, 5, 1), 18);
         is(t.x.rider(2, 0), 7);
         is(t.x.sheet(2, 6, 5, 1), 18);
@@ -481,7 +335,7 @@ public final class PromiseTest {
         is(t.x.sheet(3, -5, 9, 9), -3);
         is(t.x.rider(0, 0) + t.x.rider(1, 0) + t.x.rider(2, 0), 3);
         // SPENT is no more than MIND
-        PromiseTest u = county();
+        Probe u = Probe.county();
         u.journey("m10;r2;d");
         is(u.x.rider(1, 1), 2);
         u.x.sheet(2, 2, 9, -8);
@@ -490,8 +344,8 @@ public final class PromiseTest {
         is(u.x.rider(1, 3), -1);
         is(u.x.sheet(2, 2, 9, 0), 19);
         is(u.x.rider(1, 1), 1);
-        is(new PromiseTest().x.sheet(0, 6, 9, 9), 0);
-        PromiseTest first = new PromiseTest("aa", "5:0;9:1");
+        is(new Probe().x.sheet(0, 6, 9, 9), 0);
+        Probe first = new Probe("aa", "5:0;9:1");
         first.journey("m01;r3;d");
         is(first.x.rider(0, 1), 3);
         first.x.sheet(2, 2, 2, 0);
@@ -504,7 +358,7 @@ public final class PromiseTest {
     }
 
     private static void mount() {
-        PromiseTest t = county();
+        Probe t = Probe.county();
         is(t.x.mount(0, 0), -1);
         is(t.x.mount(0, 3), -1);
         is(t.x.mount(-1, 0), -1);
@@ -522,12 +376,12 @@ public final class PromiseTest {
         is(t.x.count(3), 1);
         is(t.x.count(4), 0);
         is(t.x.count(5), 0);
-        PromiseTest nowhere = new PromiseTest("-", "9:0;9:1");
+        Probe nowhere = new Probe("-", "9:0;9:1");
         is(nowhere.x.mount(0, 1), 0);
     }
 
     private static void dismount() {
-        PromiseTest t = county();
+        Probe t = Probe.county();
         is(t.x.dismount(), -2);
         t.x.mount(0, 1);
         t.x.ride(1);
@@ -541,7 +395,7 @@ public final class PromiseTest {
     }
 
     private static void ride() {
-        PromiseTest t = county();
+        Probe t = Probe.county();
         is(t.x.ride(1), -2);
         is(t.x.ride(100), -1);
         is(t.x.ride(-1), -1);
@@ -562,7 +416,7 @@ public final class PromiseTest {
         t.due(t.x.ride(0), 0, 1, 0, -1);
         t.due(t.x.ride(100), -1, 1, 0, -1);
         // of equal ones THE SECOND has SPENT
-        PromiseTest u = new PromiseTest("aab;b", "2:00;2:10");
+        Probe u = new Probe("aab;b", "2:00;2:10");
         u.rule("0");
         u.x.mount(1, 0);
         u.due(u.x.ride(1), 1, 0, 0, -1);
@@ -570,7 +424,7 @@ public final class PromiseTest {
         is(u.x.rider(1, 1), 0);
         u.due(u.x.ride(9), 1, 0, 1, 0);
         // who is CONVINCED spends no more, nor does the other one in its stead
-        PromiseTest s = stubborn();
+        Probe s = Probe.stubborn();
         s.x.mount(0, 1);
         s.due(s.x.ride(99), 99, 0, 0, -1);
         is(s.x.rider(0, 1), 1);
@@ -579,7 +433,7 @@ public final class PromiseTest {
     }
 
     private static void walk() {
-        PromiseTest t = county();
+        Probe t = Probe.county();
         is(t.x.walk(0, 1), 2);
         is(t.x.walk(0, 1), -3);
         is(t.x.walk(0, -1), -3);
@@ -596,7 +450,7 @@ public final class PromiseTest {
     }
 
     private static void lead() {
-        PromiseTest t = county();
+        Probe t = Probe.county();
         is(t.x.lead(0, 1), 2);
         is(t.x.count(2), 2);
         is(t.x.rider(0, 2), 2);
@@ -615,7 +469,7 @@ public final class PromiseTest {
     }
 
     private static void rest() {
-        PromiseTest t = county();
+        Probe t = Probe.county();
         is(t.x.rest(0), -2);
         is(t.x.rest(3), -1);
         is(t.x.rest(-1), -1);
@@ -632,7 +486,7 @@ public final class PromiseTest {
     }
 
     private static void deal() {
-        PromiseTest t = county();
+        Probe t = Probe.county();
         is(t.x.deal(0, 1), -2);
         t.journey("w00;w10");
         is(t.x.deal(0, 1), 2);
@@ -647,7 +501,7 @@ public final class PromiseTest {
         t.x.mount(0, 1);
         is(t.x.deal(0, 2), -2);
         is(t.x.deal(2, 1), -2);
-        PromiseTest same = new PromiseTest("-!", "1:2;2:2;3:1");
+        Probe same = new Probe("-!", "1:2;2:2;3:1");
         is(same.x.deal(0, 1), 0);
         is(same.x.count(9), 1);
         // digits, not VIEWS
@@ -655,7 +509,7 @@ public final class PromiseTest {
     }
 
     private static void journey() {
-        PromiseTest t = county();
+        Probe t = Probe.county();
         t.due(t.journey("m10;r9;d;z1;x12"), 4, 1, 3);
         is(t.x.count(2), 1);
         is(t.x.rider(1, 1), 0);
@@ -695,7 +549,7 @@ public final class PromiseTest {
     }
 
     private static void undo() {
-        PromiseTest t = county();
+        Probe t = Probe.county();
         is(t.x.undo(), -1);
         is(t.x.mount(1, 0), 1);
         is(t.x.ride(0), 0);
@@ -740,7 +594,7 @@ public final class PromiseTest {
         is(t.x.count(3), -1);
         is(t.x.undo(), -1);
         // all of it comes back, whatever was done ahead of it
-        PromiseTest u = county();
+        Probe u = Probe.county();
         u.undone(() -> u.x.walk(2, 0));
         u.undone(() -> u.x.lead(1, 1));
         u.undone(() -> u.x.lead(1, 0));
@@ -785,7 +639,7 @@ public final class PromiseTest {
     }
 
     private static void where() {
-        PromiseTest t = county();
+        Probe t = Probe.county();
         t.due(t.x.where(0), 0, 0, 1);
         t.due(t.x.where(200), 0, 0, 1);
         is(t.x.where(201), -1);
@@ -804,7 +658,7 @@ public final class PromiseTest {
         t.x.ride(1);
         t.due(t.x.where(0), 1, 0, 0);
         t.due(t.x.where(1), 1, 0, 1);
-        PromiseTest s = stubborn();
+        Probe s = Probe.stubborn();
         s.x.mount(0, 1);
         s.rule("s=199");
         s.due(s.x.where(199), 0, 199, 0);
@@ -814,7 +668,7 @@ public final class PromiseTest {
     }
 
     private static void stops() {
-        PromiseTest t = county();
+        Probe t = Probe.county();
         t.due(t.x.stops(0, 1, 0), 1, 2, 1, -1);
         t.due(t.x.stops(1, 0, 0), 3, 1, 1, 1);
         t.due(t.x.stops(0, 2, 0), 0, 0, 1, -1);
@@ -829,7 +683,7 @@ public final class PromiseTest {
         t.due(t.x.stops(1, 0, 1), 1, 0, 1, 1);
         t.rule("s*2");
         t.due(t.x.stops(2, 0, 1), 1, 2, 1, -1);
-        PromiseTest s = stubborn();
+        Probe s = Probe.stubborn();
         s.due(s.x.stops(0, 1, 0), -2, 0);
         s.rule("s=199");
         s.due(s.x.stops(0, 1, 0), 200, 2, 0, -1);
@@ -838,7 +692,7 @@ public final class PromiseTest {
     }
 
     private static void trail() {
-        PromiseTest t = county();
+        Probe t = Probe.county();
         t.due(t.x.trail(1, 0, 0), 3, 3, 2, 0);
         t.due(t.x.trail(0, 1, 0), 5, 1, 1, 0);
         t.due(t.x.trail(0, 1, 3), 8, 0, 1, 3);
@@ -848,16 +702,16 @@ public final class PromiseTest {
         t.due(t.x.trail(1, 1, 1), -1, 1, 1, 1);
         t.due(t.x.trail(1, 3, 1), -1, 1, 1, 1);
         t.due(t.x.trail(1, 0, 4), -1, 1, 1, 1);
-        PromiseTest back = new PromiseTest("-;aa", "9:00;9:11");
+        Probe back = new Probe("-;aa", "9:00;9:11");
         back.due(back.x.trail(0, 1, 1), 3, 1, 1, 0);
-        PromiseTest s = stubborn();
+        Probe s = Probe.stubborn();
         s.due(s.x.trail(0, 1, 0), 1, 200, 201, 0);
         s.rule("s=199");
         s.due(s.x.trail(0, 1, 0), 5, 200, 200, 0);
     }
 
     private static void reaches() {
-        PromiseTest t = county();
+        Probe t = Probe.county();
         is(t.x.reaches(1, 0, 0, 0), 0);
         is(t.x.reaches(1, 0, 0, 1), 1);
         is(t.x.reaches(1, 0, 0, 2), -2);
@@ -869,7 +723,7 @@ public final class PromiseTest {
         is(t.x.reaches(0, 1, -1, 0), -1);
         is(t.x.reaches(1, 1, 0, 0), -1);
         is(t.x.reaches(0, 3, 0, 0), -1);
-        PromiseTest s = stubborn();
+        Probe s = Probe.stubborn();
         s.rule("s=199");
         is(s.x.reaches(0, 1, 0, 2), 200);
         s.rule("s=200");
@@ -877,7 +731,7 @@ public final class PromiseTest {
     }
 
     private static void pairs() {
-        PromiseTest t = county();
+        Probe t = Probe.county();
         t.due(t.x.pairs(0, 2), 3, 0, 1, 1);
         t.due(t.x.pairs(0, 0), 2, 0, 2, 0);
         t.due(t.x.pairs(0, 1), 1, 1, 0, 3);
@@ -886,30 +740,25 @@ public final class PromiseTest {
         is(t.x.pairs(4, 0), -1);
         is(t.x.pairs(0, 4), -1);
         is(t.x.pairs(-1, 0), -1);
-        is(new PromiseTest("aa", "9:0").x.pairs(0, 0), 0);
+        is(new Probe("aa", "9:0").x.pairs(0, 0), 0);
         // fewer STEPS go ahead of lesser numbers
-        PromiseTest few = new PromiseTest("aa", "5:0;4:1;2:0");
+        Probe few = new Probe("aa", "5:0;4:1;2:0");
         few.due(few.x.pairs(0, 0), 6, 0, 2, 0);
         few.riders("1:1");
         few.due(few.x.pairs(0, 0), 12, 0, 2, 0);
-        PromiseTest late = new PromiseTest("aa;a", "5:00;4:10");
+        Probe late = new Probe("aa;a", "5:00;4:10");
         late.due(late.x.pairs(0, 0), 2, 0, 1, 4);
         late.riders("2:20;3:20");
         late.due(late.x.pairs(0, 0), 12, 0, 2, 0);
-        PromiseTest s = stubborn();
+        Probe s = Probe.stubborn();
         s.rule("s=199");
         s.due(s.x.pairs(0, 2), 4, 0, 1, 200);
         s.rule("s=200");
         s.due(s.x.pairs(0, 2), 0);
     }
 
-    /** A chain of INNS a, b, .. of which THE SECOND's 1 leads on, and every pair STOPS at the next one. */
-    private static PromiseTest chain() {
-        return new PromiseTest("ab!;bc!;cd!;de!;ef!;fg!;gh!;hi;i;-", "1:0000000000;1:1111111110;1:0000000000");
-    }
-
     private static void changes() {
-        PromiseTest t = county();
+        Probe t = Probe.county();
         t.due(t.x.changes(0, 2), 1, 0, 1);
         t.due(t.x.changes(0, 1), 1, 1, 0);
         t.due(t.x.changes(0, 0), 0);
@@ -920,7 +769,7 @@ public final class PromiseTest {
         is(t.x.changes(4, 4), -1);
         is(t.x.changes(-1, 0), -1);
         t.due(t.x.changes(1, 2), 1, 0, 1);
-        PromiseTest c = chain();
+        Probe c = Probe.chain();
         c.due(c.x.changes(0, 1), 1, 0, 1);
         c.due(c.x.changes(0, 3), 3, 0, 1, 0, 1, 0, 1);
         c.due(c.x.changes(0, 5), 5, 0, 1, 0, 1, 0, 1, 0, 1, 0, 1);
@@ -933,27 +782,27 @@ public final class PromiseTest {
         is(c.x.count(6), 2);
         c.due(c.x.changes(0, 2), 2, 0, 1, 0, 1);
         // of as few the least row: 0 1 leads by b, where 1 2 alone goes on; 0 2 leads by c, where 0 1 does
-        PromiseTest d = new PromiseTest("ab!;bd!;-;-", "1:0000;1:1000;1:0100");
+        Probe d = new Probe("ab!;bd!;-;-", "1:0000;1:1000;1:0100");
         d.due(d.x.changes(0, 3), 2, 0, 1, 0, 2);
-        is(new PromiseTest("ab;a", "9:00").x.changes(0, 1), -2);
-        is(new PromiseTest("ab;a", "9:00").x.changes(1, 1), 0);
+        is(new Probe("ab;a", "9:00").x.changes(0, 1), -2);
+        is(new Probe("ab;a", "9:00").x.changes(1, 1), 0);
     }
 
     private static void stations() {
-        PromiseTest t = county();
+        Probe t = Probe.county();
         t.due(t.x.stations(0), 7, 5);
         t.due(t.x.stations(2), 4, 4);
         t.due(t.x.stations(3), 8, 8);
         is(t.x.stations(4), -1);
         is(t.x.stations(-1), -1);
-        PromiseTest c = chain();
+        Probe c = Probe.chain();
         c.due(c.x.stations(0), 255, 128);
         c.due(c.x.stations(4), 240, 128);
         c.due(c.x.stations(7), 384, 384);
         // where it begins alone is no PLACE where it STOPS
-        PromiseTest two = new PromiseTest("bb!;-", "9:00;9:11");
+        Probe two = new Probe("bb!;-", "9:00;9:11");
         two.due(two.x.stations(0), 2, 2);
-        PromiseTest one = new PromiseTest("bb!;-", "9:00");
+        Probe one = new Probe("bb!;-", "9:00");
         one.due(one.x.stations(0), 0, 0);
         // fresh, however they are
         c.journey("m01;r9");
@@ -961,7 +810,7 @@ public final class PromiseTest {
     }
 
     private static void foot() {
-        PromiseTest t = county();
+        Probe t = Probe.county();
         t.due(t.x.foot(0, 2), 1, 1);
         t.due(t.x.foot(2, 1), 2, 0, 0);
         t.due(t.x.foot(1, 1), 0);
@@ -971,28 +820,28 @@ public final class PromiseTest {
         is(t.x.foot(4, 0), -1);
         is(t.x.foot(0, 4), -1);
         is(t.x.foot(-1, 0), -1);
-        PromiseTest u = new PromiseTest("acb;add;da;-", "");
+        Probe u = new Probe("acb;add;da;-", "");
         u.due(u.x.foot(0, 3), 2, 1, 0);
-        PromiseTest v = new PromiseTest("aab;ac;aad;ae;af;ag;ah;ai;aaj;-", "");
+        Probe v = new Probe("aab;ac;aad;ae;af;ag;ah;ai;aaj;-", "");
         v.due(v.x.foot(0, 9), 9, 2, 1, 2, 1, 1, 1, 1, 1, 2);
     }
 
     private static void record() {
-        PromiseTest t = county();
+        Probe t = Probe.county();
         t.due(t.x.record(0), 3, 1, 0, 1);
         t.due(t.x.record(2), 0, 0, 1, 6);
         t.due(t.x.record(1), 5, 0, 2, 2);
         is(t.x.record(4), -1);
         is(t.x.record(-1), -1);
-        is(new PromiseTest("aa", "9:0").x.record(0), -2);
-        is(new PromiseTest("aa", "9:0;7:1").x.record(0), 7);
-        is(new PromiseTest("aa", "9:0").x.record(1), -1);
-        PromiseTest s = stubborn();
+        is(new Probe("aa", "9:0").x.record(0), -2);
+        is(new Probe("aa", "9:0;7:1").x.record(0), 7);
+        is(new Probe("aa", "9:0").x.record(1), -1);
+        Probe s = Probe.stubborn();
         s.due(s.x.record(0), 200, 0, 1, 4);
     }
 
     private static void matches() {
-        PromiseTest t = county();
+        Probe t = Probe.county();
         t.due(t.x.matches(7, 0), 2, -1, 2, 1);
         t.due(t.x.matches(3, 0), 1, 1, 0, -1);
         t.due(t.x.matches(5, 1), 5, 2, -1, 0);
@@ -1003,7 +852,7 @@ public final class PromiseTest {
         is(t.x.matches(7, 4), -1);
         is(t.x.matches(7, -1), -1);
         // like ones ride no STEP, unlike ones as many as the lesser MIND
-        PromiseTest u = new PromiseTest("aa", "5:0;4:0;3:0;2:1;1:1;9:1");
+        Probe u = new Probe("aa", "5:0;4:0;3:0;2:1;1:1;9:1");
         u.due(u.x.matches(63, 0), 5 + 2 + 1, 5, 3, 4, 1, 2, 0);
         u.due(u.x.matches(7, 0), 0, -1, 2, 1, -1, -1, -1);
         u.due(u.x.matches(15, 0), 2, 1, 0, 3, 2, -1, -1);
@@ -1011,7 +860,7 @@ public final class PromiseTest {
     }
 
     private static void partner() {
-        PromiseTest t = county();
+        Probe t = Probe.county();
         t.due(t.x.partner(1, 0), 0, 3);
         t.due(t.x.partner(0, 0), 1, 1);
         t.due(t.x.partner(0, 1), 2, 5);
@@ -1019,13 +868,13 @@ public final class PromiseTest {
         t.due(t.x.partner(3, 0), -1, 0);
         is(t.x.partner(0, 4), -1);
         is(t.x.partner(-1, 0), -1);
-        is(new PromiseTest("aa", "9:0").x.partner(0, 0), -2);
-        PromiseTest s = stubborn();
+        is(new Probe("aa", "9:0").x.partner(0, 0), -2);
+        Probe s = Probe.stubborn();
         s.due(s.x.partner(1, 0), 0, 200);
     }
 
     private static void agree() {
-        PromiseTest t = county();
+        Probe t = Probe.county();
         t.due(t.x.agree(0, 2), 13, 3);
         t.due(t.x.agree(0, 1), 12, 2);
         t.due(t.x.agree(2, 1), 12, 2);
@@ -1038,17 +887,17 @@ public final class PromiseTest {
     }
 
     private static void convinces() {
-        PromiseTest t = county();
+        Probe t = Probe.county();
         t.due(t.x.convinces(1, 0, 0), 1, 3, 9);
         t.due(t.x.convinces(0, 2, 1), 2, 5, 9);
         t.due(t.x.convinces(0, 1, 0), -2, 5, 9);
         is(t.x.convinces(0, 0, 0), -1);
         is(t.x.convinces(0, 3, 0), -1);
         is(t.x.convinces(0, 1, 4), -1);
-        PromiseTest u = new PromiseTest("aa", "3:0;3:1");
+        Probe u = new Probe("aa", "3:0;3:1");
         u.due(u.x.convinces(0, 1, 0), 1, 3, 3);
         u.due(u.x.convinces(1, 0, 0), 0, 3, 3);
-        PromiseTest s = stubborn();
+        Probe s = Probe.stubborn();
         s.due(s.x.convinces(0, 1, 0), -2, 0, 2);
         // 0 is CONVINCED and does not wear down, 1 does if it has less left
         is(s.x.rest(1), 1);
@@ -1060,7 +909,7 @@ public final class PromiseTest {
     }
 
     private static void claim() {
-        PromiseTest t = county();
+        Probe t = Probe.county();
         is(t.x.claim(0, 0), -2);
         is(t.x.claim(2, 0), -1);
         is(t.x.claim(-1, 9), -1);
@@ -1074,7 +923,7 @@ public final class PromiseTest {
         t.rule("a+s");
         is(t.x.claim(0, 0), 1);
         is(t.x.claim(1, 0), 2);
-        PromiseTest u = new PromiseTest("abc;a;a", "9:000;7:111");
+        Probe u = new Probe("abc;a;a", "9:000;7:111");
         u.x.mount(0, 1);
         is(u.x.claim(0, 0), 4);
         is(u.x.claim(0, 1), 0);
@@ -1085,14 +934,14 @@ public final class PromiseTest {
         is(u.x.claim(1, 1), 6);
         is(u.x.claim(0, 1), 5);
         is(u.x.claim(0, 0), 0);
-        PromiseTest nowhere = new PromiseTest("-", "9:0;9:1");
+        Probe nowhere = new Probe("-", "9:0;9:1");
         nowhere.x.mount(0, 1);
         is(nowhere.x.claim(0, 0), -2);
         is(t.x.count(10), 0);
     }
 
     private static void lie() {
-        PromiseTest t = county();
+        Probe t = Probe.county();
         is(t.x.lie(0, 0), -2);
         is(t.x.lie(2, 0), -1);
         is(t.x.lie(-1, 0), -1);
@@ -1105,7 +954,7 @@ public final class PromiseTest {
         is(t.x.lie(0, -1), -1);
         is(t.x.lie(0, 4), -1);
         is(t.x.rider(1, 1), 0);
-        PromiseTest u = new PromiseTest("abc;cba;baa", "9:000;7:111");
+        Probe u = new Probe("abc;cba;baa", "9:000;7:111");
         u.x.mount(0, 1);
         u.due(u.x.lie(0, 0), 2, 1);
         u.due(u.x.lie(1, 0), 1, 2);
@@ -1116,7 +965,7 @@ public final class PromiseTest {
         u.rule("2");
         u.due(u.x.lie(0, 2), 0, 1);
         u.due(u.x.lie(1, 2), 1, 1);
-        PromiseTest s = stubborn();
+        Probe s = Probe.stubborn();
         s.x.mount(0, 1);
         s.rule("s=199");
         s.due(s.x.lie(0, 2), 1, 200);
@@ -1125,7 +974,7 @@ public final class PromiseTest {
     }
 
     private static void prints() {
-        PromiseTest t = county();
+        Probe t = Probe.county();
         is(t.prints(""), -1);
         is(t.prints("abcd"), 4);
         is(t.x.count(8), 4);
@@ -1142,11 +991,11 @@ public final class PromiseTest {
         is(t.x.count(8), 20);
         t.riders("1:0000");
         is(t.x.count(8), 20);
-        is(new PromiseTest().prints("a"), -1);
+        is(new Probe().prints("a"), -1);
     }
 
     private static void fits() {
-        PromiseTest t = county();
+        Probe t = Probe.county();
         is(t.x.fits(), -2);
         t.prints("abab");
         t.due(t.x.fits(), 1, 1, 0);
@@ -1168,7 +1017,7 @@ public final class PromiseTest {
     }
 
     private static void views() {
-        PromiseTest t = county();
+        Probe t = Probe.county();
         is(t.x.views(), -2);
         t.prints("abab");
         t.due(t.x.views(), 3, 1, 2, 1);
@@ -1187,13 +1036,13 @@ public final class PromiseTest {
         t.due(t.x.views(), 1, 6);
         t.rule("2*(s=0)");
         t.due(t.x.views(), 1, 6);
-        PromiseTest nobody = new PromiseTest("bbb;aab", "");
+        Probe nobody = new Probe("bbb;aab", "");
         nobody.prints("abab");
         nobody.due(nobody.x.views(), 3, 6, 4, 6);
     }
 
     private static void editions() {
-        PromiseTest t = county();
+        Probe t = Probe.county();
         t.due(t.x.editions(7), 3, 0, 1, 2);
         t.due(t.x.editions(6), 2, 0, 1);
         t.due(t.x.editions(0), 0);
@@ -1207,12 +1056,12 @@ public final class PromiseTest {
         t.journey("m10;r9");
         t.due(t.x.editions(3), 2, 0, 1);
         // digits, not VIEWS
-        PromiseTest u = new PromiseTest("a", "1:0;1:1");
+        Probe u = new Probe("a", "1:0;1:1");
         u.due(u.x.editions(3), 2, 0, 1);
     }
 
     private static void kinds() {
-        PromiseTest t = county();
+        Probe t = Probe.county();
         t.due(t.x.kinds(7, 0), 2, 0, 2);
         t.due(t.x.kinds(7, 1), 3, 0, 1);
         t.due(t.x.kinds(6, 1), 2, 1, 1);
@@ -1229,17 +1078,17 @@ public final class PromiseTest {
     }
 
     private static void oneCounty() {
-        PromiseTest t = county();
+        Probe t = Probe.county();
         is(t.x.county(1, 0), -1);
         is(t.x.county(1, 61), -1);
-        is(new PromiseTest().x.county(1, 61), -1);
-        is(new PromiseTest("aa", "9:0").x.county(1, 1), -2);
+        is(new Probe().x.county(1, 61), -1);
+        is(new Probe("aa", "9:0").x.county(1, 1), -2);
         // R of seed 0: 12345, which draws 0; then -740551042, which draws 54236: of two riders 0 and 0, so 0 and 1
-        PromiseTest u = new PromiseTest("aa", "9:0;7:1");
+        Probe u = new Probe("aa", "9:0;7:1");
         u.due(u.x.county(0, 1), 7, 0, 0, 0);
         is(u.x.rider(1, 1), 0);
         // seed 1 draws 16838, 38526, 10113, 50283: of three riders 2 and 0, then 0 and 0, so 0 and 1
-        PromiseTest three = new PromiseTest("aa", "9:0;5:1;7:1");
+        Probe three = new Probe("aa", "9:0;5:1;7:1");
         three.due(three.x.county(1, 1), 7, 0, 0, 0);
         three.due(three.x.county(1, 2), 12, 0, 0, 0);
         // seed 0 draws 0, 54236, of three riders 0 and 2
@@ -1249,11 +1098,11 @@ public final class PromiseTest {
         u.due(u.x.county(0, 1), 20, 0, 0, 0);
         u.due(u.x.county(0, 60), 1200, 0, 0, 0);
         // fresh, from where THE HORSE is
-        PromiseTest v = new PromiseTest("bb;-", "9:00;7:11");
+        Probe v = new Probe("bb;-", "9:00;7:11");
         v.due(v.x.county(5, 3), 1, 1, 0, 2);
         v.journey("m01;r1");
         v.due(v.x.county(5, 3), 0, 1, -1, 3);
-        PromiseTest w = new PromiseTest("aa", "9:0;1:1");
+        Probe w = new Probe("aa", "9:0;1:1");
         w.journey("m01;r9");
         is(w.x.count(6), 2);
         w.due(w.x.county(0, 2), 2, 0, 0, 0);
@@ -1261,7 +1110,7 @@ public final class PromiseTest {
     }
 
     private static void keep() {
-        PromiseTest t = county();
+        Probe t = Probe.county();
         is(t.x.keep(0), true);
         is(t.x.keep(1), true);
         is(t.x.keep(2), false);
@@ -1282,11 +1131,11 @@ public final class PromiseTest {
         is(t.x.rider(1, 1), 3);
         is(t.x.rider(1, 3), 0);
         is(t.x.rider(0, 2), 1);
-        is(new PromiseTest().x.keep(0), true);
+        is(new Probe().x.keep(0), true);
     }
 
     private static void again() {
-        PromiseTest t = county();
+        Probe t = Probe.county();
         is(t.x.again(0), false);
         is(t.x.again(2), false);
         is(t.x.again(-1), false);
@@ -1299,7 +1148,7 @@ public final class PromiseTest {
         is(t.x.again(1), true);
         is(t.x.count(9), 0);
         // SPENT is MIND at most
-        PromiseTest u = county();
+        Probe u = Probe.county();
         u.journey("m10;r2;d");
         u.x.keep(0);
         u.x.sheet(2, 3, 1, 0);
@@ -1323,7 +1172,7 @@ public final class PromiseTest {
     }
 
     private static void count() {
-        PromiseTest t = county();
+        Probe t = Probe.county();
         t.prints("abc");
         t.journey("w20;w22;m10;r3");
         t.x.sign(0);
@@ -1331,8 +1180,8 @@ public final class PromiseTest {
         for (int what = 0; what < 12; what++) {
             is(t.x.count(what), want[what]);
         }
-        is(stubborn().x.count(6), 3);
-        PromiseTest six = new PromiseTest("ab;bc;ca", "9:000;9:000;9:000;9:000;9:000;9:111");
+        is(Probe.stubborn().x.count(6), 3);
+        Probe six = new Probe("ab;bc;ca", "9:000;9:000;9:000;9:000;9:000;9:111");
         six.x.mount(5, 4);
         is(six.x.count(3), 5);
         is(six.x.count(4), 4);
@@ -1348,7 +1197,7 @@ public final class PromiseTest {
     }
 
     private static void row() {
-        PromiseTest t = county();
+        Probe t = Probe.county();
         t.x.stops(1, 0, 0);
         is(t.x.row(0), 1);
         is(t.x.row(2), 1);
