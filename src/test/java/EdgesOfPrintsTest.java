@@ -292,6 +292,10 @@ public final class EdgesOfPrintsTest extends Edges {
             Probe none = new Probe();
             none.riders("1:;2:");
             none.due(none.x.county(7, 60), 0, 0, -1, 60);
+            // six RIDERS: seed 143 draws 5 and 4, seed 4 draws 5 and 0
+            Probe six = new Probe("aa", "9:0;9:0;9:0;9:0;3:0;9:1");
+            six.due(six.x.county(143, 1), 3, 0, 4, 0);
+            six.due(six.x.county(4, 1), 9, 0, 0, 0);
         });
     }
 

@@ -313,6 +313,9 @@ public final class EdgesOfQuestionsTest extends Edges {
             c.due(c.x.changes(0, 4), 4, 0, 1, 0, 1, 0, 1, 0, 1);
             c.due(c.x.changes(0, 5), 5, 0, 1, 0, 1, 0, 1, 0, 1, 0, 1);
             c.due(c.x.changes(0, 6), 6, 0, 1, 0, 1, 0, 1, 0, 1, 0, 1);
+            Probe ring = new Probe("bb!;cc!;dd!;ee!;ff!;gg!;hh!;ii!;jj!;aa!", "1:0000000000;1:1111111111");
+            ring.due(ring.x.changes(0, 9), 9, 0, 1, 0, 1, 0, 1, 0, 1, 0, 1);
+            ring.due(ring.x.changes(5, 4), 9, 0, 1, 0, 1, 0, 1, 0, 1, 0, 1);
             // 0 and 1 come to an INN that leads nowhere
             Probe t = new Probe("bc;dd!;-!;-", "1:0000;1:1100");
             t.due(t.x.changes(0, 2), 1, 0, 1);
@@ -347,6 +350,11 @@ public final class EdgesOfQuestionsTest extends Edges {
             // fresh, however they are
             c.journey("m01;r9");
             is(c.x.stations(0), 255);
+            // ten rides round, till it STOPS where it began
+            Probe ring = new Probe("bb!;cc!;dd!;ee!;ff!;gg!;hh!;ii!;jj!;aa!", "1:0000000000;1:1111111111");
+            for (int p = 0; p < 10; p++) {
+                is(ring.x.stations(p), 1023);
+            }
             // where it begins is none, if it does not STOP there
             Probe two = new Probe("bb!;-", "9:00;9:11");
             is(two.x.stations(0), 2);
@@ -565,7 +573,7 @@ public final class EdgesOfQuestionsTest extends Edges {
             s.due(s.x.agree(0, 2), 7, 3);
             s.due(s.x.agree(0, 1), 6, 2);
         });
-        edge("NONE: others.", () -> refusesTwo());
+        edge("NONE: others.", EdgesOfQuestionsTest::refusesTwo);
     }
 
     private static void refusesTwo() {
@@ -672,6 +680,10 @@ public final class EdgesOfQuestionsTest extends Edges {
             Probe nowhere = new Probe("-", "9:0;9:1");
             nowhere.x.mount(0, 1);
             nowhere.idle(() -> nowhere.x.claim(0, 0), -2);
+            Probe none = new Probe();
+            none.riders("9:;9:");
+            none.x.mount(0, 1);
+            none.idle(() -> none.x.claim(0, 0), -2);
         });
     }
 
@@ -732,6 +744,10 @@ public final class EdgesOfQuestionsTest extends Edges {
             Probe nowhere = new Probe("-", "9:0;9:1");
             nowhere.x.mount(0, 1);
             nowhere.idle(() -> nowhere.x.lie(0, 0), -2);
+            Probe none = new Probe();
+            none.riders("9:;9:");
+            none.x.mount(0, 1);
+            none.idle(() -> none.x.lie(0, 0), -1);
         });
     }
 }

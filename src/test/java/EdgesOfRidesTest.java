@@ -35,6 +35,13 @@ public final class EdgesOfRidesTest extends Edges {
             is(nowhere.x.mount(0, 1), 0);
             Probe one = new Probe("a", "9:0;9:1");
             is(one.x.mount(0, 1), 0);
+            // no PLACES, no WAYS
+            Probe none = new Probe();
+            none.riders("9:;9:");
+            is(none.x.mount(0, 1), 0);
+            none.due(none.x.ride(5), 0, 0, 1, -1);
+            none.due(none.x.where(5), 0, 0, 1);
+            is(none.x.dismount(), 0);
             // VIEWS by the MAPS that they go by
             Probe s = Probe.stubborn();
             is(s.x.mount(0, 2), 0);
@@ -456,6 +463,9 @@ public final class EdgesOfRidesTest extends Edges {
                 for (int i = 0; i < acts; i++) {
                     states[i] = t.state();
                     t.x.walk(i % 3, (i / 2) % t.x.place(t.x.rider(i % 3, 2), 0));
+                    // refused ones take no room
+                    t.x.walk(0, 9);
+                    t.x.mount(0, 0);
                 }
                 int most = Math.min(acts, 12);
                 is(t.x.count(9), most);

@@ -106,6 +106,7 @@ public final class EdgesOfTermsTest extends Edges {
             none(() -> t.x.rider(6, 0));
             fault(0, t.riders("7:00"));
             is(t.x.count(1), 6);
+            sixAndTen();
         });
         edge("MIND 1 .. 99 (how much it holds out)", () -> {
             Probe t = new Probe("aa", "1:0;99:1;99:0");
@@ -147,6 +148,36 @@ public final class EdgesOfTermsTest extends Edges {
             is(t.x.view(0, 0), 1);
             is(t.x.view(2, 0), 1);
         });
+    }
+
+    /** Six RIDERS and ten PLACES, of which each has its own. */
+    private static void sixAndTen() {
+        Probe t = new Probe("bb!;cc;dd;ee;ff;gg;hh;ii;jj;aa!", "1:0000000000;2:1111111111;3:2222222222");
+        t.riders("4:0120120120;5:1121100000;6:2012012012");
+        t.journey("w00;w10;w10;w20;w20;w20;w30;w30;w30;w30");
+        t.journey("m54;r5");
+        t.journey("w30;w30;w30;w30;w30");
+        int[] spent = {0, 0, 0, 0, 5, 0};
+        int[] places = {1, 2, 3, 9, 5, 5};
+        int[] by = {-1, -1, -1, -1, 5, -1};
+        int[][] views = {
+            {0, 0, 0, 0, 0, 0, 0, 0, 0, 0}, {1, 1, 1, 1, 1, 1, 1, 1, 1, 1}, {0, 0, 0, 0, 0, 0, 0, 0, 0, 0},
+            {0, 1, 0, 0, 1, 0, 0, 1, 0, 0}, {0, 0, 1, 0, 0, 1, 0, 0, 1, 0}, {0, 0, 1, 0, 0, 1, 0, 0, 1, 0}};
+        for (int r = 0; r < 6; r++) {
+            is(t.x.rider(r, 0), r + 1);
+            is(t.x.rider(r, 1), spent[r]);
+            is(t.x.rider(r, 2), places[r]);
+            is(t.x.rider(r, 3), by[r]);
+            is(t.x.rider(r, 5), r > 3 ? 1 : 0);
+            for (int p = 0; p < 10; p++) {
+                is(t.x.view(r, p), views[r][p]);
+            }
+        }
+        is(t.x.count(2), 5);
+        is(t.x.count(3), 5);
+        is(t.x.count(4), 4);
+        is(t.x.count(5), 5);
+        is(t.x.count(6), 16);
     }
 
     private static void ridersText() {
@@ -296,7 +327,7 @@ public final class EdgesOfTermsTest extends Edges {
             way("((((1))))", 1);
             way("((((1))))+((((1))))", 2);
             way("((((1)))+(((1))))", 2);
-            way("(((((1))))".substring(1) + "*(2)", 2);
+            way("((((1))))*(2)", 2);
             way("(1+1)*2", 1);
             ruleFaults(new Object[][] {
                 {"(((((1)))))", 4}, {"((((1+(1)))))", 6}, {"(1", 2}, {"(", 1}, {"()", 1}, {"(1))", 3}, {"((((1)))", 8}, {")", 0},
@@ -503,6 +534,21 @@ public final class EdgesOfTermsTest extends Edges {
             u.text("zz");
             asked(u);
         });
+        edge("s STEPS of this ride so far,", () -> {
+            // whatever ride goes on meanwhile, others are begun anew
+            for (int s = 0; s < 9; s++) {
+                Probe t = Probe.stubborn();
+                Probe u = Probe.stubborn();
+                t.x.mount(0, 1);
+                u.x.mount(0, 1);
+                u.x.ride(7);
+                t.rule("s=" + s);
+                u.rule("s=" + s);
+                is(t.x.where(9) == 0, false);
+                is(u.x.where(9) == 0, s < 7);
+                is(begunAnew(u), begunAnew(t));
+            }
+        });
         edge("what is asked of rides to come looks on for 200 STEPS at most.", () -> {
             Probe t = Probe.stubborn();
             t.due(t.x.stops(0, 1, 0), -2, 0);
@@ -520,6 +566,22 @@ public final class EdgesOfTermsTest extends Edges {
             t.due(t.x.trail(0, 1, 0), 1, 200, 201, 0);
             t.due(t.x.record(0), 200, 0, 1, 4);
         });
+    }
+
+    /** What is told of rides that are not that of the two on THE HORSE; ahead of each that one is looked at. */
+    private static String begunAnew(Probe t) {
+        OfDifferentMinds x = t.x;
+        t.prints("aaaaaaaac");
+        IntSupplier[] questions = {
+            () -> x.stops(0, 1, 0), () -> x.trail(0, 1, 0), () -> x.reaches(0, 1, 0, 2), () -> x.pairs(0, 2), () -> x.changes(0, 2),
+            () -> x.stations(0), () -> x.record(0), () -> x.matches(3, 0), () -> x.partner(0, 0), () -> x.convinces(2, 1, 0),
+            x::fits, x::views, () -> x.county(3, 1)};
+        StringBuilder told = new StringBuilder();
+        for (IntSupplier question : questions) {
+            x.where(1);
+            told.append(question.getAsInt()).append(Arrays.toString(t.row()));
+        }
+        return told.toString();
     }
 
     private static void asked(Probe t) {

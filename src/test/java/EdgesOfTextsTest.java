@@ -375,6 +375,12 @@ public final class EdgesOfTextsTest extends Edges {
             t.journey("m01;r1");
             is(t.x.place(0, 5), 28);
             is(t.x.place(1, 5), 35);
+            // RIDERS that were are there no more
+            t.roads("bb;a");
+            is(t.x.place(0, 5), 0);
+            t.riders("1:00");
+            is(t.x.place(0, 5), 1);
+            is(Probe.county().x.place(0, 5), 7);
         });
         edge("NoSuchElementException: none such, another what.", () -> {
             Probe t = Probe.county();
