@@ -1110,7 +1110,7 @@ public final class OfDifferentMinds {
         }
 
         /** Where a text that could end here goes on; NONE: it does not. */
-        int rest() {
+        int goesOn() {
             return isOver() && !isCutShort() ? NONE : next;
         }
     }
@@ -1141,7 +1141,7 @@ public final class OfDifferentMinds {
                     return text.position();
                 }
                 if (!text.take(';')) {
-                    return text.rest();
+                    return text.goesOn();
                 }
             }
             return text.position();
@@ -1168,7 +1168,7 @@ public final class OfDifferentMinds {
                     return fault;
                 }
                 if (!text.take(';')) {
-                    return text.rest();
+                    return text.goesOn();
                 }
             }
             return text.position();
@@ -1200,7 +1200,7 @@ public final class OfDifferentMinds {
                     return text.position();
                 }
                 if (!text.take(';')) {
-                    return text.rest();
+                    return text.goesOn();
                 }
             }
             return text.position();
@@ -1233,7 +1233,7 @@ public final class OfDifferentMinds {
             for (int i = 0; i < MOST_PRINTS && text.takeOf('a', 'a' + places - 1); i++) {
                 continue;
             }
-            return text.position() == 0 ? 0 : text.rest();
+            return text.position() == 0 ? 0 : text.goesOn();
         }
     }
 
@@ -1433,9 +1433,9 @@ public final class OfDifferentMinds {
                 if (!takeJoined(text, COMPARISONS, 0)) {
                     return text.position();
                 }
-                int rest = text.rest();
-                if (rest != NONE) {
-                    return rest;
+                int behind = text.goesOn();
+                if (behind != NONE) {
+                    return behind;
                 }
             }
             System.arraycopy(draft, 0, code, 0, RULE_SIGNS);
@@ -1980,6 +1980,9 @@ public final class OfDifferentMinds {
 
         /** The first pair whose ride STOPS where it is just so far from the end. */
         private int pairTo(int place, int rides) {
+            if (!land.hasPlace(place)) {
+                return NONE;
+            }
             for (int pair = 0; pair < PAIRS; pair++) {
                 if (farOf(ends[place * PAIRS + pair]) == rides) {
                     return pair;

@@ -75,6 +75,10 @@ public final class FaceTest {
         Constructor<?>[] all = type.getDeclaredConstructors();
         check(all.length == 1 && all[0].getParameterCount() == 0 && Modifier.isPublic(all[0].getModifiers()), "constructor");
         for (Class<?> c : type.getDeclaredClasses()) {
+            for (Method m : c.getDeclaredMethods()) {
+                check(!names.contains(m.getName()), "a method inside bears a public name: " + m);
+                check(m.getParameterCount() <= 7, "too many parameters: " + m);
+            }
             check(Modifier.isStatic(c.getModifiers()) && !Modifier.isPublic(c.getModifiers()), "class inside: " + c);
             int fields = 0;
             for (Field f : c.getDeclaredFields()) {
